@@ -49,8 +49,7 @@ public final class TagCoder {
     private Members draft = null;
     private final Octets octets = new Octets();
     private final Octets result = new Octets();
-    private final Octets scratch = new Octets();
-    private final Recoder recoder = new Recoder(octets, scratch);
+    private final Recoder recoder = new Recoder();
 
     public TagCoder() {
     }
@@ -138,9 +137,9 @@ public final class TagCoder {
         if (wanted == null) {
             throw new IndexOutOfBoundsException();
         }
-        // The result has to outlive a call that throws, so the strict form grows elsewhere.
-        recoder.recode(wanted);
-        result.become(scratch);
+        // The result has to outlive a call that throws, so the strict form grows in the recoder.
+        recoder.recode(octets, wanted);
+        result.become(recoder.out);
         return result.count;
     }
 
@@ -500,10 +499,10 @@ public final class TagCoder {
         }
     }
 
-    /** Reads one row of octets as a type asks and writes the strict form to another one. */
+    /** Reads a copy of the octets as a type asks and writes the strict form. */
     private static final class Recoder {
-        private final Octets in;
-        private final Octets out;
+        final Octets out = new Octets();
+        private final Octets in = new Octets();
         private int at = 0;
 
         // What the last identifier and length said. Reading on overwrites it: a method that reads
@@ -520,12 +519,8 @@ public final class TagCoder {
         // How many bits of the last piece of a BIT STRING are not part of it.
         private int unused = 0;
 
-        Recoder(Octets in, Octets out) {
-            this.in = in;
-            this.out = out;
-        }
-
-        void recode(Type type) {
+        void recode(Octets octets, Type type) {
+            in.become(octets);
             at = 0;
             out.count = 0;
             value(type, in.count, 1);

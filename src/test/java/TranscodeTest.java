@@ -54,6 +54,7 @@ public final class TranscodeTest {
         CHECK.refused(x, 4, "9f 88 80 81 00 00");
         CHECK.refused(x, 2, "5f 1f 00");
         CHECK.refused(x, 2, "bf 1f 00");
+        CHECK.refused(x, x.tagged(2, 5, false, 0), "5f 81 80 80 05 00");
         CHECK.refused(x, 0, "");
         CHECK.refused(x, 0, "1f 05 00");
     }
@@ -73,6 +74,7 @@ public final class TranscodeTest {
         CHECK.refused(x, 0, "04 03 aa bb");
         CHECK.refused(x, 0, "04 01 aa bb");
         CHECK.refused(x, 0, "04 84 ff ff ff ff aa bb");
+        CHECK.refused(x, 0, "04 84 ff ff ff ff");
         CHECK.refused(x, 0, "04 84 80 00 00 02 aa bb");
         CHECK.refused(x, 0, "04 84 01 00 00 02 aa bb");
         CHECK.refused(x, 0, "04 82 00");
@@ -88,6 +90,8 @@ public final class TranscodeTest {
         CHECK.refused(x, 0, "24 80 04 01 aa");
         CHECK.refused(x, 0, "24 80 04 01 aa 00 00 00 00");
         CHECK.refused(x, 0, "24 80 00 01 00 00 00");
+        CHECK.refused(x, 0, "24 80 00 01");
+        CHECK.refused(x, 0, "24 80 01 00");
         CHECK.strict(x, outer, "30 80 30 80 04 01 07 00 00 30 00 00 00", "30 07 30 03 04 01 07 30 00");
         CHECK.strict(x, outer, "30 04 30 80 00 00", "30 02 30 00");
         CHECK.refused(x, outer, "30 03 30 80 00 00");
@@ -454,10 +458,12 @@ public final class TranscodeTest {
         CHECK.refused(x, type, "11 00");
         CHECK.refused(x, type, "30 00");
         int nested = x.list(17, type);
-        CHECK.strict(x, nested, "31 0e 31 06 02 01 09 02 01 02 31 04 02 02 01 00", "31 0e 31 04 02 02 01 00 31 06 02 01 02 02 01 09");
+        CHECK.strict(x, nested, "31 0e 31 06 02 01 09 02 01 02 31 04 02 02 01 00",
+            "31 0e 31 04 02 02 01 00 31 06 02 01 02 02 01 09");
         x.basic(4);
         int strings = x.list(17, nested + 1);
-        CHECK.strict(x, strings, "31 80 04 02 05 00 24 80 04 01 05 00 00 04 00 00 00", "31 09 04 00 04 01 05 04 02 05 00");
+        CHECK.strict(x, strings, "31 80 04 02 05 00 24 80 04 01 05 00 00 04 00 00 00",
+            "31 09 04 00 04 01 05 04 02 05 00");
     }
 
     private static void choices() {
