@@ -3,6 +3,8 @@ import java.util.Random;
 /** All promises: chance calls, the same ones each time, answered by the program and by the model. */
 public final class ModelTest {
     private static final int RUNS = 3000;
+    private static final int MOST_CALLS = 512;
+    private static final int MOST_MAKING_CALLS = 200;
     private static final int[] KINDS = {1, 2, 3, 4, 5, 6, 12, 22, 2, 4, 0, 16};
     private static final Check CHECK = new Check("ModelTest");
 
@@ -11,6 +13,7 @@ public final class ModelTest {
     private final TagCoder coder = new TagCoder();
     private final Model model = new Model();
     private final StringBuilder told = new StringBuilder();
+    private int calls = 0;
 
     // How many encodings were taken and refused: a test that only refuses would show nothing.
     private static int taken = 0;
@@ -34,14 +37,15 @@ public final class ModelTest {
     }
 
     private void go() {
-        int calls = 4 + chance.nextInt(40);
-        for (int n = 0; n < calls; n++) {
+        for (int n = 4 + chance.nextInt(40); n > 0 && calls < MOST_MAKING_CALLS; n--) {
             makeSomething();
             same("counts", coder.counts(), model.counts());
         }
         for (int type = -1; type <= model.types.size(); type++) {
-            for (int j = -1; j < 16; j++) {
-                same("firstTag(" + type + ", " + j + ")", coder.firstTag(type, j), model.firstTag(type, j));
+            int tag = 0;
+            for (int j = -1; j < 1 || tag >= 0; j++) {
+                tag = model.firstTag(type, j);
+                same("firstTag(" + type + ", " + j + ")", coder.firstTag(type, j), tag);
             }
         }
         for (int n = 0; n < 12; n++) {
@@ -50,6 +54,7 @@ public final class ModelTest {
     }
 
     private void same(String call, long got, long want) {
+        calls++;
         CHECK.due(told + " " + call, got, want);
         told.append(' ').append(call);
     }
@@ -118,17 +123,17 @@ public final class ModelTest {
         if (chance.nextInt(4) == 0) {
             octets = spoilt(octets);
         }
-        if (octets.length > 200) {
+        // A feed an octet, as many octets in the result, and some calls beside them, at the most.
+        if (octets.length > 200 || calls + 2 * octets.length + 5 > MOST_CALLS) {
             return;
         }
         coder.clear();
         model.clear();
-        for (byte octet : octets) {
-            same("feed(" + (octet & 255) + ", 1)", coder.feed(octet, 1) ? 1 : 0, model.feed(octet, 1) ? 1 : 0);
-        }
+        feedInParts(octets);
         String want = modelTranscoded(type);
         String call = "transcode(" + type + ")";
         CHECK.due(told + " " + call, Check.transcoded(coder, type), want);
+        calls += 3 + want.length() / 2;
         told.append(' ').append(call);
         if (want.startsWith("Illegal")) {
             refused++;
@@ -137,6 +142,20 @@ public final class ModelTest {
         }
         same("result(-1)", coder.result(-1), model.result(-1));
         same("octet(-1)", coder.octet(-1), model.octet(-1));
+    }
+
+    private void feedInParts(byte[] octets) {
+        int fed = 0;
+        while (fed < octets.length) {
+            int n = 1 + chance.nextInt(Math.min(8, octets.length - fed));
+            long some = chance.nextLong();
+            for (int k = 0; k < n; k++) {
+                some = some << 8 | octets[fed + k] & 255;
+            }
+            long part = some;
+            same("feed(" + part + ", " + n + ")", coder.feed(part, n) ? 1 : 0, model.feed(part, n) ? 1 : 0);
+            fed += n;
+        }
     }
 
     private byte[] spoilt(byte[] octets) {
