@@ -1,5 +1,8 @@
+import java.util.HashSet;
 import java.util.Locale;
+import java.util.Set;
 import java.util.function.Consumer;
+import java.util.function.Predicate;
 import java.util.function.ToLongFunction;
 
 /** What the tests share: a count of wrong answers, and octets as texts of hexadecimal digits. */
@@ -8,7 +11,7 @@ final class Check {
 
     private final String name;
     private String sentence = "";
-    private int sentences = 0;
+    private final Set<String> sentences = new HashSet<>();
     private int asked = 0;
     private int askedBefore = -1;
     private int wrong = 0;
@@ -21,7 +24,7 @@ final class Check {
     void sentence(String words) {
         countSilence();
         sentence = " \"" + words + "\"";
-        sentences++;
+        sentences.add(words);
         askedBefore = asked;
     }
 
@@ -97,7 +100,7 @@ final class Check {
     }
 
     /** A refused call that answers true or false. */
-    void idle(String what, Consumer<TagCoder> ready, java.util.function.Predicate<TagCoder> call) {
+    void idle(String what, Consumer<TagCoder> ready, Predicate<TagCoder> call) {
         idle(what, ready, x -> call.test(x) ? 1 : 0, 0);
     }
 
@@ -158,7 +161,7 @@ final class Check {
 
     void finish() {
         countSilence();
-        String about = sentences == 0 ? "" : " about " + sentences + " sentences";
+        String about = sentences.isEmpty() ? "" : " about " + sentences.size() + " sentences";
         System.out.println(name + ": " + wrong + " of " + asked + " answers" + about + " are wrong");
         if (wrong != 0 || asked == 0) {
             System.exit(1);

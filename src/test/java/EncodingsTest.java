@@ -33,13 +33,23 @@ public final class EncodingsTest {
         bitStrings();
         bitStringsInParts();
         deepBitStrings();
+        stringsBehindOthers();
         sequences();
         firstTagTells();
         sets();
         lists();
         choices();
         justOneEncoding();
+        fullRows();
         CHECK.finish();
+    }
+
+    /** Contents that are wrong stay so inside a list, where octets behind them could be taken for theirs. */
+    private static void refusedAnywhere(Recipe recipe, String octets) {
+        CHECK.refused(recipe, octets);
+        CHECK.refused(Recipe.sequenceOf(recipe), "30 80" + octets + "00 00");
+        CHECK.refused(Recipe.sequenceOf(recipe), "30 80" + octets + "00 00 00");
+        CHECK.refused(Recipe.sequenceOf(recipe), String.format("30 %02x", Check.plain(octets).length() / 2) + octets);
     }
 
     private static void headers() {
@@ -111,7 +121,8 @@ public final class EncodingsTest {
         CHECK.refused(NULL.implicit(2, 40), "9f 82 80 80 80 80 80 80 80 80 28 00");
         CHECK.refused(NULL.implicit(2, 2000), "9f 81 80 80 8f 50 00");
         // 2^21 - 1 can be told, but no type bears it.
-        CHECK.refused(Recipe.choice(NULL.implicit(2, 2000), NULL.implicit(2, 127), NULL.implicit(2, 0)), "9f ff ff 7f 00");
+        CHECK.refused(Recipe.choice(NULL.implicit(2, 2000), NULL.implicit(2, 127), NULL.implicit(2, 0)),
+            "9f ff ff 7f 00");
         CHECK.refused(NULL.implicit(2, 2000), "9f 81 8f 50 00");
         CHECK.refused(Recipe.choice(NULL.implicit(3, 0), NULL.implicit(2, 0)), "9f 81 80 80 00 00");
     }
@@ -141,6 +152,12 @@ public final class EncodingsTest {
             CHECK.refused(OCTET_STRING, "04" + zeros + "02 aa");
             CHECK.refused(OCTET_STRING, "04" + zeros + "02 aa bb cc");
         }
+        for (int size : new int[] {0, 1, 2, 127, 128, 129, 196}) {
+            CHECK.refused(OCTET_STRING, "04 82 01 00" + "5a".repeat(size));
+        }
+        CHECK.refused(OCTET_STRING, "04 82 01 05" + "5a".repeat(133));
+        CHECK.refused(OCTET_STRING, "04 82 01 05" + "5a".repeat(6));
+        CHECK.refused(OCTET_STRING, "04 83 01 00 00" + "5a".repeat(128));
         CHECK.refused(OCTET_STRING, "04 82 02 00 aa bb");
         CHECK.refused(OCTET_STRING, "04 83 02 00 00 aa bb");
         CHECK.refused(OCTET_STRING, "04 84 02 00 00 00 aa bb");
@@ -295,10 +312,16 @@ public final class EncodingsTest {
         for (int octet = 1; octet < 256; octet++) {
             CHECK.taken(BOOLEAN, String.format("01 01 %02x", octet), "01 01 ff");
         }
-        CHECK.refused(BOOLEAN, "01 00");
-        CHECK.refused(BOOLEAN, "01 02 00 00");
-        CHECK.refused(BOOLEAN, "01 02 ff ff");
+        refusedAnywhere(BOOLEAN, "01 00");
+        refusedAnywhere(BOOLEAN, "01 02 00 00");
+        refusedAnywhere(BOOLEAN, "01 02 ff ff");
         CHECK.refused(BOOLEAN, "01 01");
+        // One octet too many, or none: what is behind would do.
+        CHECK.refused(Recipe.sequenceOf(BOOLEAN), "30 80 01 02 ff 00 00");
+        CHECK.refused(Recipe.sequenceOf(BOOLEAN), "30 80 01 02 ff 01 01 ff 00 00");
+        CHECK.refused(Recipe.sequenceOf(BOOLEAN), "30 06 01 02 ff 01 01 ff");
+        CHECK.refused(Recipe.sequenceOf(BOOLEAN), "30 06 01 00 ff 01 01 ff");
+        CHECK.refused(Recipe.sequenceOf(BOOLEAN), "30 80 01 00 ff 00 00");
     }
 
     private static void integers() {
@@ -316,9 +339,16 @@ public final class EncodingsTest {
         }
         for (String contents : wrong) {
             String octets = String.format("02 %02x", Check.plain(contents).length() / 2) + contents;
-            CHECK.refused(INTEGER, octets);
-            CHECK.refused(bounded, octets);
+            refusedAnywhere(INTEGER, octets);
+            refusedAnywhere(bounded, octets);
         }
+        CHECK.refused(Recipe.sequenceOf(INTEGER), "30 80 02 00 05 00 00");
+        CHECK.refused(Recipe.sequenceOf(INTEGER), "30 06 02 00 05 02 01 05");
+        CHECK.refused(Recipe.sequenceOf(INTEGER), "30 05 02 00 02 01 05");
+        // The nine bits are its own, whatever octets are behind it.
+        CHECK.kept(Recipe.sequenceOf(INTEGER), "30 0c 02 01 00 02 01 ff 02 01 00 02 01 7f");
+        CHECK.kept(Recipe.sequenceOf(Recipe.choice(INTEGER, INTEGER.implicit(3, 30))),
+            "30 09 02 01 ff de 01 ff de 01 00");
     }
 
     private static void wideIntegers() {
@@ -350,25 +380,36 @@ public final class EncodingsTest {
         CHECK.sentence("NULL: none.");
         CHECK.kept(NULL, "05 00");
         CHECK.taken(NULL, "05 81 00", "05 00");
-        CHECK.refused(NULL, "05 01 00");
-        CHECK.refused(NULL, "05 02 00 00");
+        refusedAnywhere(NULL, "05 01 00");
+        refusedAnywhere(NULL, "05 02 00 00");
+        refusedAnywhere(NULL, "05 02 05 00");
         CHECK.refused(NULL, "05");
+        // Contents that would do as what comes behind it.
+        CHECK.refused(Recipe.sequenceOf(NULL), "30 80 05 02 00 00");
+        CHECK.refused(Recipe.sequenceOf(NULL), "30 80 05 01 00 00");
+        CHECK.refused(Recipe.sequenceOf(NULL), "30 04 05 02 05 00");
+        CHECK.refused(NULL.explicit(1, 1), "61 80 05 02 00 00");
     }
 
     private static void objectIdentifiers() {
         CHECK.sentence("OBJECT IDENTIFIER: at least one octet, numbers in sevens, as above, but of any length,"
             + " none beginning with 128, the last one complete.");
-        String[] right = {"00", "7f", "81 00", "ff 7f", "2a 86 48", "2a 81 80 00", "81 80 80 80 80 80 80 80 80 80 80 00",
-            "00 00 00", "81 80 01 00 ff ff 7f", "1e", "01"};
+        String[] right = {"00", "7f", "81 00", "ff 7f", "2a 86 48", "2a 81 80 00",
+            "81 80 80 80 80 80 80 80 80 80 80 00", "00 00 00", "81 80 01 00 ff ff 7f", "1e", "01"};
         String[] wrong = {"", "80", "80 01", "80 00", "2a 80", "2a 80 01", "81", "2a 86", "2a 86 80", "81 00 80 00",
             "81 80", "ff", "00 80 80 01"};
         for (String contents : right) {
-            CHECK.kept(Recipe.OBJECT_IDENTIFIER, String.format("06 %02x", Check.plain(contents).length() / 2) + contents);
+            CHECK.kept(Recipe.OBJECT_IDENTIFIER, String.format("06 %02x",
+                Check.plain(contents).length() / 2) + contents);
         }
         for (String contents : wrong) {
-            CHECK.refused(Recipe.OBJECT_IDENTIFIER,
+            refusedAnywhere(Recipe.OBJECT_IDENTIFIER,
                 String.format("06 %02x", Check.plain(contents).length() / 2) + contents);
         }
+        CHECK.kept(Recipe.sequenceOf(Recipe.OBJECT_IDENTIFIER), "30 07 06 02 2a 03 06 01 00");
+        CHECK.refused(Recipe.sequenceOf(Recipe.OBJECT_IDENTIFIER), "30 07 06 02 2a 81 06 01 00");
+        CHECK.refused(Recipe.sequenceOf(Recipe.OBJECT_IDENTIFIER), "30 80 06 01 81 00 00");
+        CHECK.refused(Recipe.sequenceOf(Recipe.OBJECT_IDENTIFIER), "30 80 06 00 00 00");
         CHECK.kept(Recipe.OBJECT_IDENTIFIER, "06 81 c5" + "ff".repeat(196) + "7f");
         CHECK.refused(Recipe.OBJECT_IDENTIFIER, "06 81 c5" + "ff".repeat(197));
     }
@@ -452,8 +493,9 @@ public final class EncodingsTest {
             "ef bf bf", "f0 90 80 80", "f3 bf bf bf", "f4 80 80 80", "f4 8f bf bf", "e1 80 80", "f1 80 80 80"};
         String[] wrong = {"80", "bf", "c0 80", "c0 af", "c1 bf", "e0 80 80", "e0 9f bf", "ed a0 80", "ed af bf",
             "ed b0 80", "ed bf bf", "f0 80 80 80", "f0 8f bf bf", "f4 90 80 80", "f4 bf bf bf", "f5 80 80 80",
-            "f7 bf bf bf", "f8 88 80 80 80", "fb bf bf bf bf", "fc 84 80 80 80 80", "fe", "ff", "c2", "df", "e1", "e1 80",
-            "f1", "f1 80", "f1 80 80", "c2 7f", "c2 c0", "c2 00", "e1 7f 80", "e1 c0 80", "e1 80 7f", "e1 80 c0",
+            "f7 bf bf bf", "f8 88 80 80 80", "fb bf bf bf bf", "fc 84 80 80 80 80", "fe", "ff", "c2", "df", "e1",
+            "e1 80", "f1", "f1 80", "f1 80 80", "c2 7f", "c2 c0", "c2 00", "e1 7f 80", "e1 c0 80", "e1 80 7f",
+            "e1 80 c0",
             "f1 7f 80 80", "f1 80 c0 80", "f1 80 80 41", "f1 80 80 ff", "c2 80 80", "e1 80 80 80", "f1 80 80 80 80"};
         for (String octets : right) {
             utf8Due(octets, true);
@@ -467,6 +509,22 @@ public final class EncodingsTest {
         }
         utf8Due("", true);
         utf8Due("f4 8f bf bf".repeat(49), true);
+        // An octet 128 .. 191 or above 247 begins no character, however many go on behind it.
+        for (int lead = 0x80; lead < 0x100; lead = lead == 0xBF ? 0xF8 : lead + 1) {
+            for (String next : new String[] {"80", "90", "bf"}) {
+                for (int count = 0; count <= 6; count++) {
+                    utf8Due(String.format("%02x", lead) + next.repeat(count), false);
+                }
+            }
+        }
+        // Nor does one of the others go on for more or fewer octets than it says.
+        for (int lead = 0xC2; lead <= 0xF4; lead++) {
+            int due = lead < 0xE0 ? 1 : lead < 0xF0 ? 2 : 3;
+            String first = lead == 0xED || lead == 0xF4 ? "80" : lead == 0xE0 || lead == 0xF0 ? "b0" : "a0";
+            for (int count = 0; count <= 4; count++) {
+                utf8Due(String.format("%02x", lead) + (count == 0 ? "" : first + "80".repeat(count - 1)), count == due);
+            }
+        }
     }
 
     private static void utf8Due(String octets, boolean right) {
@@ -546,7 +604,8 @@ public final class EncodingsTest {
         CHECK.refused(bits.implicit(2, 0), "a0 04 80 02 04 ff");
         // Each value stands for itself.
         CHECK.taken(Recipe.sequenceOf(bits), "30 08 03 02 04 ff 03 02 00 ff", "30 08 03 02 04 f0 03 02 00 ff");
-        CHECK.taken(Recipe.sequenceOf(bits), "30 0c 23 04 03 02 04 ff 23 04 03 02 03 ff", "30 08 03 02 04 f0 03 02 03 f8");
+        CHECK.taken(Recipe.sequenceOf(bits), "30 0c 23 04 03 02 04 ff 23 04 03 02 03 ff",
+            "30 08 03 02 04 f0 03 02 03 f8");
     }
 
     private static void deepBitStrings() {
@@ -562,6 +621,19 @@ public final class EncodingsTest {
         CHECK.taken(Recipe.BIT_STRING, "23 09 23 07 23 05 23 03 03 01 00", "03 01 00");
         CHECK.refused(Recipe.BIT_STRING, "23 0b 23 09 23 07 23 05 23 03 03 01 00");
         CHECK.taken(Recipe.BIT_STRING, "23 80" + "23 05 23 03 03 01 00".repeat(6) + "00 00", "03 01 00");
+    }
+
+    private static void stringsBehindOthers() {
+        CHECK.sentence("SEQUENCE OF, SET OF: the values' encodings.");
+        // What one value has tells nothing of the next one.
+        Recipe strings = Recipe.sequenceOf(Recipe.choice(OCTET_STRING, Recipe.UTF8_STRING, Recipe.IA5_STRING,
+            Recipe.BIT_STRING, Recipe.OBJECT_IDENTIFIER));
+        CHECK.kept(strings, "30 0f 04 02 ff ff 16 01 41 0c 02 c3 a9 16 00 0c 00");
+        CHECK.kept(strings, "30 0e 03 02 07 80 03 01 00 06 01 01 04 02 80 80");
+        CHECK.taken(strings, "30 0e 03 02 01 ff 23 04 03 02 07 ff 24 80 00 00", "30 0a 03 02 01 fe 03 02 07 80 04 00");
+        CHECK.refused(strings, "30 06 0c 01 c3 16 01 41");
+        CHECK.refused(strings, "30 06 16 01 41 16 01 80");
+        CHECK.refused(strings, "30 06 0c 01 41 0c 01 80");
     }
 
     private static void sequences() {
@@ -690,5 +762,28 @@ public final class EncodingsTest {
                 CHECK.refused(types[k], octets.substring(0, size));
             }
         }
+    }
+
+    private static void fullRows() {
+        CHECK.sentence("The octets have to be just one encoding, all of them.");
+        // 200 octets of which an encoding goes on past the last.
+        Recipe list = Recipe.sequenceOf(NULL);
+        CHECK.taken(list, "30 80" + "05 00".repeat(98) + "00 00", "30 81 c4" + "05 00".repeat(98));
+        CHECK.refused(list, "30 80" + "05 00".repeat(99));
+        CHECK.refused(list, "30 80" + "05 00".repeat(98) + "00 05");
+        CHECK.refused(list, "30 81 c5" + "05 00".repeat(98) + "00");
+        CHECK.refused(list, "30 81 c5" + "05 00".repeat(98) + "05");
+        CHECK.refused(list, "30 82 00 c4" + "05 00".repeat(97) + "05 81");
+        CHECK.refused(list, "30 82 00 c4" + "05 00".repeat(97) + "1f 85");
+        CHECK.refused(list, "30 81 c6" + "05 00".repeat(98) + "05");
+        CHECK.refused(Recipe.sequenceOf(BOOLEAN), "30 81 c5" + "01 01 ff".repeat(65) + "01 01");
+        CHECK.refused(Recipe.sequenceOf(INTEGER), "30 81 c5" + "02 01 05".repeat(65) + "02 00");
+        CHECK.refused(Recipe.sequenceOf(Recipe.BIT_STRING), "30 81 c5" + "03 01 00".repeat(65) + "03 00");
+        CHECK.refused(Recipe.sequenceOf(Recipe.OBJECT_IDENTIFIER), "30 81 c5" + "06 01 00".repeat(65) + "06 00");
+        CHECK.refused(OCTET_STRING, "24 80" + "04 00".repeat(99));
+        CHECK.refused(OCTET_STRING, "04 81 c6" + "00".repeat(197));
+        CHECK.refused(Recipe.UTF8_STRING, "0c 81 c5" + "41".repeat(196) + "c3");
+        CHECK.refused(Recipe.set(OCTET_STRING.mandatory()), "31 80 04 81 c3" + "00".repeat(195));
+        CHECK.refused(OCTET_STRING.explicit(1, 1), "61 80 04 81 c3" + "00".repeat(195));
     }
 }

@@ -188,7 +188,8 @@ public final class MakingTest {
     private static void boundedTheWrongWay() {
         CHECK.sentence("low is above high, or, for a size, below 0.");
         long[][] crossed = {{1, 0}, {0, -1}, {-1, -2}, {Long.MAX_VALUE, Long.MIN_VALUE}, {Long.MAX_VALUE, 0},
-            {Long.MAX_VALUE, Long.MAX_VALUE - 1}, {Long.MIN_VALUE + 1, Long.MIN_VALUE}, {0, Long.MIN_VALUE}, {1L << 32, 1}};
+            {Long.MAX_VALUE, Long.MAX_VALUE - 1}, {Long.MIN_VALUE + 1, Long.MIN_VALUE}, {0, Long.MIN_VALUE},
+            {1L << 32, 1}};
         long[][] below = {{-1, 5}, {-1, -1}, {-1, 0}, {Long.MIN_VALUE, Long.MAX_VALUE}};
         for (int kind : new int[] {2, 4, 12, 22}) {
             for (long[] bound : crossed) {
@@ -333,16 +334,19 @@ public final class MakingTest {
         for (Recipe type : new Recipe[] {Recipe.BOOLEAN, Recipe.BOOLEAN.implicit(1, 1), Recipe.BOOLEAN.explicit(1, 1),
             Recipe.BOOLEAN.explicit(1, 1).implicit(2, 2), Recipe.BOOLEAN.implicit(1, 1).explicit(2, 2)}) {
             defaultsDue("BOOLEAN", type, true, 0, 1);
-            defaultsDue("BOOLEAN", type, false, -1, 2, 255, 256, 1L << 32, 1 + (1L << 32), Long.MIN_VALUE, Long.MAX_VALUE);
+            defaultsDue("BOOLEAN", type, false, -1, 2, 255, 256, 1L << 32, 1 + (1L << 32), Long.MIN_VALUE,
+                Long.MAX_VALUE);
         }
-        for (Recipe type : new Recipe[] {Recipe.INTEGER, Recipe.INTEGER.implicit(3, 0), Recipe.INTEGER.explicit(3, 0)}) {
+        for (Recipe type : new Recipe[] {Recipe.INTEGER, Recipe.INTEGER.implicit(3, 0), Recipe.INTEGER.explicit(3,
+            0)}) {
             defaultsDue("INTEGER", type, true, 0, 1, 2, -1, Long.MIN_VALUE, Long.MAX_VALUE);
         }
         Recipe bounded = Recipe.INTEGER.within(-3, 300);
         for (Recipe type : new Recipe[] {bounded, bounded.implicit(1, 1), bounded.explicit(1, 1),
             bounded.implicit(1, 1).explicit(1, 2), bounded.explicit(1, 1).explicit(1, 2).implicit(1, 3)}) {
             defaultsDue("INTEGER from -3 to 300", type, true, -3, -2, 0, 299, 300);
-            defaultsDue("INTEGER from -3 to 300", type, false, -4, 301, 300 + (1L << 32), Long.MIN_VALUE, Long.MAX_VALUE);
+            defaultsDue("INTEGER from -3 to 300", type, false, -4, 301, 300 + (1L << 32), Long.MIN_VALUE,
+                Long.MAX_VALUE);
         }
         defaultsDue("INTEGER of one value", Recipe.INTEGER.within(7, 7), true, 7);
         defaultsDue("INTEGER of one value", Recipe.INTEGER.within(7, 7), false, 6, 8);
@@ -433,7 +437,8 @@ public final class MakingTest {
             x.open(kind);
             CHECK.due("a new list is empty", x.counts(), 2 + 32 * kind);
             x.feed(0x020107, 3);
-            CHECK.due("the type behind open", Check.transcoded(x, 1), kind == 20 ? "020107" : "IllegalArgumentException");
+            CHECK.due("the type behind open", Check.transcoded(x, 1),
+                kind == 20 ? "020107" : "IllegalArgumentException");
         }
         TagCoder y = new TagCoder();
         types(15).accept(y);

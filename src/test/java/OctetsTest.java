@@ -28,7 +28,8 @@ public final class OctetsTest {
     }
 
     private static void feedTheLowest() {
-        CHECK.sentence("The n lowest octets of a long, n 1 .. 8, the highest of them first, are appended to the octets.");
+        CHECK.sentence("The n lowest octets of a long, n 1 .. 8, the highest of them first,"
+            + " are appended to the octets.");
         String all = "81f2c3a4e5060798";
         for (int n = 1; n <= 8; n++) {
             TagCoder x = new TagCoder();

@@ -22,7 +22,9 @@ public final class StrictFormTest {
         setsByClass();
         setsByOutermostTag();
         setsByAlternative();
+        longMembersInOrder();
         setsOfByOctets();
+        longValuesInOrder();
         alikeValues();
         valuesThatEndFirst();
         strictInsideFirst();
@@ -65,7 +67,8 @@ public final class StrictFormTest {
         CHECK.taken(Recipe.setOf(NULL), "31 81 c5 05 81 00" + "05 00".repeat(97), "31 81 c4" + "05 00".repeat(98));
         CHECK.taken(OCTET_STRING, "24 81 84 04 7f" + "5a".repeat(127) + "04 01 5a", "04 81 80" + "5a".repeat(128));
         CHECK.taken(OCTET_STRING, "24 81 83 04 7f" + "5a".repeat(127) + "04 00", "04 7f" + "5a".repeat(127));
-        CHECK.taken(Recipe.BIT_STRING, "23 81 84 03 7f 00" + "5a".repeat(126) + "03 01 00", "03 7f 00" + "5a".repeat(126));
+        CHECK.taken(Recipe.BIT_STRING, "23 81 84 03 7f 00" + "5a".repeat(126) + "03 01 00",
+            "03 7f 00" + "5a".repeat(126));
     }
 
     private static void truth() {
@@ -220,6 +223,10 @@ public final class StrictFormTest {
         Recipe mixed = Recipe.set(NULL.implicit(1, 6).mandatory(), NULL.explicit(1, 5).mandatory(),
             NULL.implicit(2, 0).mandatory());
         CHECK.taken(mixed, "31 08 80 00 46 00 65 02 05 00", "31 08 65 02 05 00 46 00 80 00");
+        Recipe high = Recipe.set(NULL.implicit(1, 32).mandatory(), NULL.explicit(1, 31).mandatory(),
+            NULL.explicit(1, 128).mandatory(), NULL.implicit(1, 129).mandatory());
+        CHECK.taken(high, "31 12 5f 81 01 00 7f 81 00 02 05 00 5f 20 00 7f 1f 02 05 00",
+            "31 12 7f 1f 02 05 00 5f 20 00 7f 81 00 02 05 00 5f 81 01 00");
         CHECK.taken(Recipe.set(Recipe.sequence().mandatory(), Recipe.IA5_STRING.mandatory(), Recipe.set().mandatory()),
             "31 06 16 00 31 00 30 00", "31 06 30 00 31 00 16 00");
     }
@@ -267,6 +274,38 @@ public final class StrictFormTest {
             "31 0c 7f 81 00 02 05 00 7f 81 00 02 05 00");
         CHECK.taken(Recipe.setOf(Recipe.choice(NULL.implicit(1, 128), NULL.implicit(1, 127))),
             "31 0b 5f 81 00 00 5f 7f 00 5f 81 00 00", "31 0b 5f 7f 00 5f 81 00 00 5f 81 00 00");
+    }
+
+    private static void longValuesInOrder() {
+        CHECK.sentence("values of a SET OF by their encodings, octet by octet");
+        // A long value has its place first; others then find theirs before it and behind it.
+        Recipe chosen = Recipe.choice(BOOLEAN, OCTET_STRING, NULL, Recipe.UTF8_STRING, Recipe.IA5_STRING);
+        for (int size : new int[] {126, 127, 128, 129, 130, 160, 178}) {
+            String length = size < 128 ? String.format("%02x", size) : String.format("81%02x", size);
+            String whole = "04" + length + "05".repeat(size);
+            int all = whole.length() / 2 + 13;
+            String head = String.format("81%02x", all);
+            String strict = "01 01 ff 04 00" + whole + "05 00 0c 01 41 16 01 41";
+            CHECK.taken(Recipe.setOf(chosen), "31" + head + whole + "16 01 41 05 00 01 01 ff 0c 01 41 04 00",
+                "31" + head + strict);
+            CHECK.taken(Recipe.setOf(chosen), "31" + head + "16 01 41" + whole + "0c 01 41 05 00 04 00 01 01 ff",
+                "31" + head + strict);
+        }
+    }
+
+    private static void longMembersInOrder() {
+        CHECK.sentence("members of a SET by rising tags");
+        Recipe type = Recipe.set(NULL.mandatory(), Recipe.IA5_STRING.mandatory(), OCTET_STRING.mandatory(),
+            Recipe.UTF8_STRING.mandatory(), BOOLEAN.mandatory());
+        for (int size : new int[] {126, 127, 128, 129, 130, 160, 180}) {
+            String length = size < 128 ? String.format("%02x", size) : String.format("81%02x", size);
+            String whole = "04" + length + "05".repeat(size);
+            String head = String.format("81%02x", whole.length() / 2 + 11);
+            CHECK.taken(type, "31" + head + whole + "16 01 41 05 00 01 01 ff 0c 01 41",
+                "31" + head + "01 01 ff" + whole + "05 00 0c 01 41 16 01 41");
+            CHECK.taken(type, "31" + head + "16 01 41" + whole + "0c 01 41 05 00 01 01 ff",
+                "31" + head + "01 01 ff" + whole + "05 00 0c 01 41 16 01 41");
+        }
     }
 
     private static void alikeValues() {

@@ -9,6 +9,7 @@ public final class TranscodeTest {
         noSuchType();
         noEncoding();
         octetsAndResultStay();
+        earlierCallsLeaveNothing();
         CHECK.finish();
     }
 
@@ -102,5 +103,36 @@ public final class TranscodeTest {
         x.clear();
         CHECK.due("none", Check.transcoded(x, pair), "IllegalArgumentException");
         CHECK.due("result behind none", Check.result(x), "30060201090101ff");
+    }
+
+    private static void earlierCallsLeaveNothing() {
+        CHECK.sentence("Takes the octets as an encoding of a value of a type: the result is the strict form");
+        String[] earlier = {"04 81 b0" + "ff".repeat(176), "04 81 b0" + "00".repeat(176),
+            "31 81 c4" + "05 00".repeat(98), "30 0f 02 09 01 00 00 00 00 00 00 00 05 03 02 07 ff",
+            "24 80 24 80 04 05 01 02 03 04 05", "03 02 07 ff"};
+        Recipe one = Recipe.choice(Recipe.sequenceOf(Recipe.choice(Recipe.INTEGER, Recipe.BIT_STRING)),
+            Recipe.setOf(Recipe.NULL), Recipe.OCTET_STRING, Recipe.IA5_STRING, Recipe.UTF8_STRING, Recipe.BIT_STRING);
+        String[] taken = {"16 01 41", "0c 02 c3 a9", "03 01 00", "03 02 00 ff", "04 00", "30 00", "31 00",
+            "30 03 02 01 05"};
+        String[] refused = {"16", "16 01", "16 02 41", "0c 01 c3", "30 80", "30 80 00", "31 80 05", "31 02 05",
+            "24 80 04", "03", "23 80 03 01 00", "04 81", "30 03 02 01", ""};
+        for (String before : earlier) {
+            for (String octets : taken) {
+                CHECK.due(octets + " behind " + before, behind(one, before, octets), Check.plain(octets));
+            }
+            for (String octets : refused) {
+                CHECK.due(octets + " behind " + before, behind(one, before, octets), "IllegalArgumentException");
+            }
+        }
+    }
+
+    private static String behind(Recipe recipe, String before, String octets) {
+        TagCoder x = new TagCoder();
+        int type = recipe.make(x);
+        Check.feed(x, before);
+        Check.transcoded(x, type);
+        x.clear();
+        Check.feed(x, octets);
+        return Check.transcoded(x, type);
     }
 }

@@ -77,6 +77,23 @@ public final class TypeRulesTest {
         CHECK.due("fifteen EXPLICIT tags", Check.transcoded(x, 15), Check.plain(strict));
         CHECK.due("one less", Check.transcoded(x, 14), "IllegalArgumentException");
         deepestChoices();
+        deepestMembers(16, "30");
+        deepestMembers(17, "31");
+    }
+
+    private static void deepestMembers(int kind, String identifier) {
+        TagCoder x = new TagCoder();
+        x.basic(2);
+        String strict = "02 01 05";
+        for (int n = 1; n < 16; n++) {
+            x.open(kind);
+            x.member(n - 1, n % 2, 0);
+            CHECK.due("list of kind " + kind + " with type " + (n - 1), x.close(), n);
+            strict = String.format("%s%02x", identifier, Check.plain(strict).length() / 2) + strict;
+        }
+        Check.feed(x, (identifier + "80").repeat(15) + "02 01 05" + "00 00".repeat(15));
+        CHECK.due("fifteen lists with members", Check.transcoded(x, 15), Check.plain(strict));
+        CHECK.due("one less", Check.transcoded(x, 14), "IllegalArgumentException");
     }
 
     private static void deepestDue(int kind, String identifier) {
@@ -193,6 +210,17 @@ public final class TypeRulesTest {
         CHECK.refused(longest, "04 81 c4" + "80".repeat(196));
         CHECK.refused(Recipe.OCTET_STRING.within(0, 196), "04 81 c5" + "80".repeat(197));
         CHECK.kept(Recipe.OCTET_STRING.within(0, 1L << 32), "04 01 80");
+        // The size is its own, not that of what stands before it.
+        for (Recipe basic : new Recipe[] {Recipe.OCTET_STRING, Recipe.IA5_STRING, Recipe.UTF8_STRING}) {
+            Recipe pair = Recipe.sequence(INTEGER.mandatory(), basic.within(1, 2).implicit(2, 0).mandatory());
+            CHECK.refused(pair, "30 05 02 01 05 80 00");
+            CHECK.kept(pair, "30 06 02 01 05 80 01 41");
+            CHECK.kept(pair, "30 07 02 01 05 80 02 41 41");
+            CHECK.refused(pair, "30 08 02 01 05 80 03 41 41 41");
+            Recipe list = Recipe.setOf(basic.within(2, 2).implicit(2, 0));
+            CHECK.kept(list, "31 0c 80 02 41 41 80 02 41 42 80 02 41 43");
+            CHECK.refused(list, "31 0c 80 02 41 41 80 01 42 80 03 41 41 43");
+        }
         CHECK.refused(Recipe.OCTET_STRING.within(1L << 32, 1L << 33), "04 00");
     }
 
@@ -428,12 +456,15 @@ public final class TypeRulesTest {
             + " up to the next MANDATORY one, that one too, have none in common.");
         // A letter is a tag, capital where MANDATORY, followed by ? where OPTIONAL and = with a DEFAULT;
         // Z is a CHOICE of A and B.
-        String[] allowed = {"", "A", "A A A A A A", "A a?", "A a=", "a? B A", "a= B A", "a? B a?", "a= B a=", "a? B A a?",
-            "A b? A", "A b? c? d? e? A", "a? b? c? d? e? F", "a? b? c= d? e? f?", "a? B a? B a? B", "C Z", "Z Z", "Z z? C",
+        String[] allowed = {"", "A", "A A A A A A", "A a?", "A a=", "a? B A", "a= B A", "a? B a?", "a= B a=",
+            "a? B A a?", "A b? A", "A b? c? d? e? A", "a? b? c? d? e? F", "a? b? c= d? e? f?", "a? B a? B a? B",
+            "C Z", "Z Z",
+            "Z z? C",
             "a? C Z", "Z a? b?", "c? Z"};
         String[] forbidden = {"a? A", "a= A", "a? a?", "a? a=", "a= a?", "a= a=", "a? b? A", "a? b= A", "a? b? a?",
             "B a? A", "B a? c? A", "A B b? c? d? B", "a? b? c? d? e? A", "a? b? c? d? e? a=", "A a? A", "A a= c? a? B",
-            "a? Z", "b= Z", "c? a? Z", "z? A", "z? B", "z? c? B", "z? Z", "z? z?", "C z? b=", "a? B b? B", "a? B c? a? c="};
+            "a? Z", "b= Z", "c? a? Z", "z? A", "z? B", "z? c? B", "z? Z", "z? z?", "C z? b=", "a? B b? B",
+            "a? B c? a? c="};
         for (String members : allowed) {
             CHECK.allowed(members, x -> sequenceOf(x, members));
         }
