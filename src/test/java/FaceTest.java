@@ -19,7 +19,9 @@ public final class FaceTest {
         CHECK.due("TagCoder is public and final", face.getModifiers(), Modifier.PUBLIC | Modifier.FINAL);
         Set<String> seen = new TreeSet<>();
         for (Method method : face.getDeclaredMethods()) {
-            if (!Modifier.isPrivate(method.getModifiers())) {
+            if (Modifier.isPrivate(method.getModifiers())) {
+                bearsNoName(method);
+            } else {
                 seen.add(told(method));
             }
         }
@@ -56,6 +58,14 @@ public final class FaceTest {
         return text.toString();
     }
 
+    private static void bearsNoName(Method method) {
+        boolean namesake = false;
+        for (String call : FACE) {
+            namesake |= call.contains(" " + method.getName() + "(");
+        }
+        CHECK.due(method + " has the name of a call", namesake, false);
+    }
+
     private static boolean mayBeStatic(Field field) {
         return !Modifier.isStatic(field.getModifiers()) || Modifier.isFinal(field.getModifiers());
     }
@@ -66,11 +76,7 @@ public final class FaceTest {
         CHECK.due(inside + " is hidden", hidden, true);
         CHECK.due(inside + " is static", Modifier.isStatic(modifiers), true);
         for (Method method : inside.getDeclaredMethods()) {
-            boolean namesake = false;
-            for (String call : FACE) {
-                namesake |= call.contains(" " + method.getName() + "(");
-            }
-            CHECK.due(method + " has the name of a call", namesake, false);
+            bearsNoName(method);
         }
         for (Field field : inside.getDeclaredFields()) {
             CHECK.due(field + " may be static", mayBeStatic(field), true);
